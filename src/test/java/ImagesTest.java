@@ -41,7 +41,10 @@ public final class ImagesTest {
         C.due("version", x.version(2, 1), 2);
         C.due("gone", x.of(2, 0), BAD);
         C.due("sweep", x.sweep(), 2);
+        x.schema(1, 1, 'a', 1);
+        x.schema(3, 3, 'a', 1);
         C.due("it stays kept", x.back(), 2);
+        C.due("all schemas", x.count(6), 1);
         C.due("it stays as it was", x.ref(1, 1), 0);
         x.object(3);
         C.due("a newer one", x.image(), 3);
@@ -57,17 +60,22 @@ public final class ImagesTest {
         x.image();
         x.object(2);
         x.hold(1, 2);
+        x.hold(7, 2);
         x.hold(2, 1);
         C.due("back", x.back(), 2);
         C.due("it stays", x.held(0), 0);
         C.due("no such number", x.held(1), NOT);
+        C.due("no such number", x.held(7), NOT);
         C.due("handles are not in the image", x.held(2), 1);
         C.due("two hold", x.count(7), 2);
         C.due("the number again", x.object(3), 2);
         C.due("it holds nothing yet", x.held(1), NOT);
-        x.hold(0, -1);
+        x.hold(0, 2);
         C.due("back", x.back(), 2);
-        C.due("nothing stays nothing", x.held(0), NOT);
+        C.due("no such number", x.held(0), NOT);
+        x.hold(2, -1);
+        C.due("back", x.back(), 2);
+        C.due("nothing stays nothing", x.held(2), NOT);
     }
 
     private static void promise29BackKeepsShelves() {
@@ -156,11 +164,24 @@ public final class ImagesTest {
             C.due("count(" + what + ")", x.count(what), due[what]);
         }
         C.due("count(-1)", x.count(-1), BAD);
+        C.due("refs of the first and the last object", refsOfLateObjects(), 3);
         x.sweep();
         int[] after = {1, 0, 1, 0, 0, 1, 3, 2, 3};
         for (int what = 0; what < 9; what++) {
             C.due("count(" + what + ") after sweep()", x.count(what), after[what]);
         }
+    }
+
+    /** References of the objects 0 and 29 count, too. */
+    private static int refsOfLateObjects() {
+        GraphSaver x = new GraphSaver();
+        for (int i = 0; i < 30; i++) {
+            x.object(3);
+        }
+        x.graft(0, 2, 29);
+        x.graft(29, 0, 29);
+        x.graft(29, 1, 0);
+        return x.count(5);
     }
 
     private static void constants() {

@@ -195,6 +195,14 @@ public final class StreamsTest {
         C.due("alike", x.alike(0, 4), 1);
         C.due("the stream stays", x.sign(1, -1), 27);
         C.due("a good load leaves the fail", x.cause(0, 0), NOT);
+        for (int kind = 1; kind <= 3; kind++) {
+            int made = x.object(kind);
+            x.save(2, made);
+            C.due("made and loaded are alike", x.alike(made, x.load(2)), 1);
+        }
+        x.row(2, 3);
+        x.save(2, 14);
+        C.due("a row, too", x.alike(14, x.load(2)), 1);
     }
 
     private static void promise21LoadDefaults() {
