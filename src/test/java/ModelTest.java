@@ -60,9 +60,7 @@ public final class ModelTest {
 
     private void same(String call, int got, int want) {
         calls++;
-        if (got != want) {
-            C.due(label + ", call " + calls + ": " + call, got, want);
-        }
+        C.due(got == want ? call : label + ", call " + calls + ": " + call, got, want);
     }
 
     private void go() {
