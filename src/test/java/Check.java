@@ -37,6 +37,12 @@ final class Check {
         due("stream(" + object + ") behind " + signs, x.stream(object, signs.length()), GraphSaver.NOT);
     }
 
+    /** Lays a stream of these signs on shelf 3 and loads it. */
+    int load(GraphSaver x, String signs) {
+        lay(x, 3, signs);
+        return x.load(3);
+    }
+
     /** Loads a stream that fails: its causes from the outermost on, as pairs of why and place. */
     void fails(GraphSaver x, String signs, int... causes) {
         lay(x, 3, signs);
