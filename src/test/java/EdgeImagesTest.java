@@ -20,6 +20,7 @@ public final class EdgeImagesTest {
         imageIsLaidBackAgain();
         newerImage();
         backAndHandles();
+        backAndEachHandle();
         backKeepsShelvesAndTheFail();
         nothingInHandlesAtFirst();
         handles0To7();
@@ -242,6 +243,23 @@ public final class EdgeImagesTest {
         x.sweep();
         C.due("0 is back", x.back(), 2);
         C.due("handles are not kept", x.held(0), NOT);
+    }
+
+    /** The same for each of the eight, beside seven that go on holding. */
+    private static void backAndEachHandle() {
+        for (int gone = 0; gone < 8; gone++) {
+            GraphSaver x = boxes(1);
+            x.image();
+            x.object(1);
+            for (int handle = 0; handle < 8; handle++) {
+                x.hold(handle, handle == gone ? 1 : 0);
+            }
+            C.due("back", x.back(), 1);
+            for (int handle = 0; handle < 8; handle++) {
+                C.due("handle " + handle, x.held(handle), handle == gone ? NOT : 0);
+            }
+            C.due("seven", x.count(7), 7);
+        }
     }
 
     /** "SHELVES, THE FAIL stay)". */

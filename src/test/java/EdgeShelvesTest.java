@@ -157,7 +157,6 @@ public final class EdgeShelvesTest {
         x.shelf(0, 1);
         for (int c = 0; c <= 255; c++) {
             C.due("put " + c, x.put(0, 0, c), Math.max(0, c - 1));
-            C.due("it is " + c, x.sign(0, 0), c);
         }
         for (int c : new int[] {LEAST, -2, -1, 256, 257, 65536, MOST}) {
             C.due("put " + c, x.put(0, 0, c), BAD);
